@@ -280,6 +280,8 @@ public final class SiteObjects {
         /* -1 for a STATIC METHOD. */
         final int[] methodClass = new int[MAX_METHODS];
         final int[] methodSelector = new int[MAX_METHODS];
+        /* For each CLASS and SELECTOR the METHOD that is meant, if one of the CLASS is asked; -1 for none. */
+        final int[] meant = new int[MAX_CLASSES * SELECTORS];
         final int[] length = new int[MAX_METHODS];
         final int[] lines = new int[MAX_METHODS * MAX_STEPS];
         final int[] kind = new int[MAX_STEPS];
@@ -292,6 +294,7 @@ public final class SiteObjects {
 
         Program() {
             belowBits[0] = 1;
+            Arrays.fill(meant, -1);
         }
 
         boolean isClass(int cls) {
@@ -343,6 +346,7 @@ public final class SiteObjects {
 
         int addClass(int above) {
             belowBits[classes] = belowBits[above] | 1 << classes;
+            System.arraycopy(meant, above * SELECTORS, meant, classes * SELECTORS, SELECTORS);
             classes++;
             return classes - 1;
         }
@@ -350,8 +354,22 @@ public final class SiteObjects {
         int addMethod(int cls, int selector) {
             methodClass[methods] = cls;
             methodSelector[methods] = selector;
+            if (cls >= 0) {
+                setMeant(cls, selector, methods);
+            }
             methods++;
             return methods - 1;
+        }
+
+        private void setMeant(int cls, int selector, int method) {
+            for (int low = cls; low < classes; low++) {
+                int at = low * SELECTORS + selector;
+                // A CLASS is told behind all that it lies below, so the greatest number is the nearest.
+                boolean isNearer = meant[at] < 0 || methodClass[meant[at]] < cls;
+                if (liesBelow(low, cls) && isNearer) {
+                    meant[at] = method;
+                }
+            }
         }
 
         int addStep(int method, int newKind) {
@@ -389,18 +407,8 @@ public final class SiteObjects {
             return kind[maker] == ROW ? 0 : b[maker];
         }
 
-        /** The METHOD that is meant, if one of a CLASS is asked; -1 if there is none. */
         int methodFor(int cls, int selector) {
-            int best = -1;
-            for (int m = 0; m < methods; m++) {
-                int home = methodClass[m];
-                boolean mayBe = home >= 0 && methodSelector[m] == selector && liesBelow(cls, home);
-                // A CLASS is told behind all that it lies below, so the greatest number is the nearest.
-                if (mayBe && (best < 0 || home > methodClass[best])) {
-                    best = m;
-                }
-            }
-            return best;
+            return meant[cls * SELECTORS + selector];
         }
 
         /** Whether a STEP is a GUARD that covers a place of its METHOD. */
@@ -452,7 +460,7 @@ public final class SiteObjects {
         }
 
         private int ahead(int number, int behind) {
-            int first = number + 1 << 8;
+            int first = (number + 1) << 8;
             switch (depth) {
                 case 0: return 0;
                 case 1: return first;
@@ -638,7 +646,9 @@ public final class SiteObjects {
             }
             int made = sites.addNode(method, context);
             if (made >= 0) {
-                Arrays.fill(sets, made * SETS, made * SETS + SETS, 0L);
+                for (int v = 0; v < SETS; v++) {
+                    sets[made * SETS + v] = 0L;
+                }
                 isNew = true;
             }
             return made;
@@ -655,7 +665,9 @@ public final class SiteObjects {
                 return 0L;
             }
             long bit = 1L << made;
-            Arrays.fill(insides, made * INSIDES, made * INSIDES + INSIDES, 0L);
+            for (int f = 0; f < INSIDES; f++) {
+                insides[made * INSIDES + f] = 0L;
+            }
             if (program.kind[step] == ROW) {
                 rowNames |= bit;
             }
@@ -859,7 +871,9 @@ public final class SiteObjects {
             makerOf[made] = maker;
             nameOf[made] = itsName;
             nodeOf[made] = itsNode;
-            Arrays.fill(slots, made * PLACES, made * PLACES + PLACES, NONE);
+            for (int p = 0; p < PLACES; p++) {
+                slots[made * PLACES + p] = NONE;
+            }
             objects++;
             return made;
         }
@@ -916,7 +930,9 @@ public final class SiteObjects {
             methodOf[open] = method;
             nodeOf[open] = node;
             next[open] = 0;
-            Arrays.fill(vars, open * VARS, open * VARS + VARS, NONE);
+            for (int v = 0; v < VARS; v++) {
+                vars[open * VARS + v] = NONE;
+            }
             open++;
         }
 
