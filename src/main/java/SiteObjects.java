@@ -174,7 +174,7 @@ public final class SiteObjects {
     }
 
     public int leads(int node, int step, int i) {
-        if (!program.isLeading(step) || i < 0) {
+        if (!program.isLeading(step)) {
             return BAD;
         }
         if (!isFound) {
@@ -763,8 +763,11 @@ public final class SiteObjects {
             return (reached[target >> 6] >> (target & 63) & 1) != 0;
         }
 
-        /** The i-th NODE by number to which an ASK or CALL leads; NONE. */
+        /** The i-th NODE by number to which an ASK or CALL leads; NONE, also where i is below 0. */
         int reachedAt(int node, int step, int i) {
+            if (i < 0) {
+                return NONE;
+            }
             reach(node, step);
             int left = i;
             for (int t = 0; t < sites.nodes; t++) {

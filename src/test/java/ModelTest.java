@@ -591,8 +591,8 @@ public final class ModelTest {
             }
             List<Integer> line = new ArrayList<>(to);
             leadsSeen += line.size();
-            for (int i = 0; i <= line.size(); i++) {
-                int want = isBad ? -1 : i < line.size() ? line.get(i) : -9;
+            for (int i = -1; i <= line.size(); i++) {
+                int want = isBad ? -1 : i >= 0 && i < line.size() ? line.get(i) : -9;
                 due(of + "leads(" + n + ", " + s + ", " + i + ")", x.leads(n, s, i), want);
             }
         }

@@ -472,7 +472,9 @@ public final class PromiseTest {
         due(11, "leads(0, 3, 0)", x.leads(0, 3, 0), BAD);
         due(11, "leads(0, 8, 0)", x.leads(0, 8, 0), BAD);
         due(11, "leads(0, -1, 0)", x.leads(0, -1, 0), BAD);
-        due(11, "leads(0, 4, -1)", x.leads(0, 4, -1), BAD);
+        due(11, "leads(0, 3, -1)", x.leads(0, 3, -1), BAD);
+        due(11, "leads(0, 4, -1)", x.leads(0, 4, -1), STATE);
+        due(11, "leads(0, 4, MIN)", x.leads(0, 4, Integer.MIN_VALUE), STATE);
         due(11, "leads(0, 4, 0)", x.leads(0, 4, 0), STATE);
         due(11, "leads(0, 7, 0), of another METHOD", x.leads(0, 7, 0), STATE);
         due(11, "leads(-1, 4, 0)", x.leads(-1, 4, 0), STATE);
@@ -484,6 +486,9 @@ public final class PromiseTest {
         due(11, "node(2, 0)", x.node(2, 0), 1);
         due(11, "leads(0, 4, 2)", x.leads(0, 4, 2), NONE);
         due(11, "leads(0, 4, MAX)", x.leads(0, 4, Integer.MAX_VALUE), NONE);
+        due(11, "leads(0, 4, -1)", x.leads(0, 4, -1), NONE);
+        due(11, "leads(0, 4, MIN)", x.leads(0, 4, Integer.MIN_VALUE), NONE);
+        due(11, "leads(0, 6, -1)", x.leads(0, 6, -1), NONE);
         due(11, "leads(0, 5, 0)", x.leads(0, 5, 0), NONE);
         due(11, "leads(0, 6, 0)", x.leads(0, 6, 0), 3);
         due(11, "leads(0, 6, 1)", x.leads(0, 6, 1), NONE);
@@ -491,6 +496,9 @@ public final class PromiseTest {
         due(11, "leads(3, 7, 0)", x.leads(3, 7, 0), 1);
         due(11, "leads(3, 7, 1)", x.leads(3, 7, 1), 2);
         due(11, "leads(4, 4, 0)", x.leads(4, 4, 0), BAD);
+        due(11, "leads(4, 4, -1)", x.leads(4, 4, -1), BAD);
+        due(11, "leads(0, 7, -1), of another METHOD", x.leads(0, 7, -1), BAD);
+        due(11, "leads(0, 0, -1)", x.leads(0, 0, -1), BAD);
         due(11, "leads(-1, 4, 0)", x.leads(-1, 4, 0), BAD);
         due(11, "leads(0, 0, 0)", x.leads(0, 0, 0), BAD);
         due(11, "node(1, 4)", x.node(1, 4), 2);
