@@ -1,13 +1,9 @@
 /** For each promise of the document: ordinary inputs, the edges that it names, and wrong inputs. */
-public final class PromiseTest {
-    static final int BAD = -1, STATE = -2, FULL = -3, NONE = -9;
-    static int wrong = 0;
+public final class PromiseTest extends Dues {
 
     static void due(int promise, String call, long got, long want) {
-        if (got != want) {
-            wrong++;
-            System.out.println("promise " + promise + ": " + call + " answered " + got + ", due is " + want);
-        }
+        about("Promise " + promise);
+        due(call, got, want);
     }
 
     /** STEPS of one METHOD, each with its kind, a, b, c, d. */
@@ -827,9 +823,6 @@ public final class PromiseTest {
         many();
         counts();
         within();
-        System.out.println(wrong == 0 ? "all answers are as due" : wrong + " answers are not as due");
-        if (wrong != 0) {
-            System.exit(1);
-        }
+        end();
     }
 }
