@@ -251,6 +251,55 @@ public final class FoundEdgesTest extends Dues {
         sets("of two, each with its own", w, 0, 0, 0, 1, 2, 3, 3);
     }
 
+    static void ofTheNamesInItAlone() {
+        about("for each NAME in b (or a): of no other NAME");
+        for (int which = 0; which < 3; which++) {
+            // NAMES 0, 1, 2 in VARS 0, 1, 2, each with itself in a FIELD.
+            SiteObjects x = single(above(), make(0, 0), make(1, 0), make(2, 0), store(0, 1, 0), store(1, 1, 1), store(2, 1, 2),
+                load(4, which, 1), store(which, 3, 4));
+            due("LOAD of NAME " + which, x.held(0, 4), 1L << which);
+            SiteObjects y = single(above(), row(0, 0, 0), row(1, 0, 0), row(2, 0, 0), lay(0, 0, 0), lay(1, 0, 1), lay(2, 0, 2),
+                take(4, which, 1));
+            due("TAKE of NAME " + which, y.held(0, 4), 1L << which);
+            for (int m = 0; m < 3; m++) {
+                due("STORE in NAME " + which + ": inside(" + m + ", 1)", x.inside(m, 1), 1L << m);
+                due("STORE in NAME " + which + ": inside(" + m + ", 3)", x.inside(m, 3), m == which ? 1L << m : 0);
+                due("LAY in NAME " + which + ": inside(" + m + ", 4)", y.inside(m, 4), 1L << m);
+            }
+        }
+    }
+
+    static void theLastOfSixtyNames() {
+        about("60 NAMES: the last of them is as good as the first");
+        // METHOD 1 is called ten times and makes six NAMES each time: in NODE 10 ROW 58 and OBJECT 59 are the last.
+        Told t = new Told(0).methods(STATIC, STATIC, of(1, 0)).steps(0, times(10, call(0, 1, 5)))
+            .steps(1, make(5, 0), make(5, 0), make(5, 0), make(5, 0), row(3, 1, 1), make(2, 1), store(2, 2, 3), lay(3, 0, 2),
+                load(0, 2, 2), take(4, 3, 0), ask(1, 2, 0, 3), put(0, 2)).steps(2, give(0), raise(1));
+        SiteObjects x = t.work(0, 1);
+        due("count(4)", x.count(4), 60);
+        for (int node = 1; node <= 10; node++) {
+            long first = 1L << 6 * (node - 1);
+            sets("NODE " + node, x, node, first << 4, allGiven(), first << 5, first << 4, first << 5, first * 15);
+            due("NODE " + node + ": inside(ROW, 4)", x.inside(6 * node - 2, 4), first << 5);
+            due("NODE " + node + ": inside(OBJECT, 2)", x.inside(6 * node - 1, 2), first << 4);
+            due("NODE " + node + ": leads", x.leads(node, 20, 0), 11);
+            due("NODE " + node + ": leads to one", x.leads(node, 20, 1), NONE);
+        }
+        due("held(11, 0)", x.held(11, 0), allGiven());
+        due("held(11, 1)", x.held(11, 1), allGiven() >> 1);
+        due("global(0)", x.global(0), allGiven());
+        due("node(11, 4)", x.node(11, 4), 10);
+    }
+
+    /** NAMES 5, 11, 17 .. 59. */
+    static long allGiven() {
+        long all = 0;
+        for (int m = 5; m < 60; m += 6) {
+            all |= 1L << m;
+        }
+        return all;
+    }
+
     static void placesOfRows() {
         about("TAKE, LAY: for each NAME that is a ROW: what is in the PLACES; LAY: what lies below the ROW's CLASS");
         // Two ROWS, of CLASS 1 and of CLASS 2 below it; OBJECTS of CLASSES 0, 1, 2; PLACES are one set.

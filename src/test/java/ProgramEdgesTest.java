@@ -425,6 +425,24 @@ public final class ProgramEdgesTest extends Dues {
         }
     }
 
+    static void aFartherMethodToldBehindMethodZero() {
+        about("of the nearest one that it lies below: METHOD 0, though one of a CLASS above is told behind it");
+        SiteObjects x = new SiteObjects();
+        due("cls(0)", x.cls(0), 1);
+        due("cls(1)", x.cls(1), 2);
+        due("METHOD 0, of CLASS 1", x.method(1, 0), 0);
+        due("METHOD 1, of CLASS 0", x.method(0, 0), 1);
+        due("METHOD 2, STATIC", x.method(-1, 0), 2);
+        for (int made = 0; made < 3; made++) {
+            x.step(2, 0, 2 + made, made, 0, 0);
+            x.step(2, 9, 5, 2 + made, 0, 5);
+        }
+        due("work(2, 0, 0)", x.work(2, 0, 0), 0);
+        for (int made = 0; made < 3; made++) {
+            due("METHOD of CLASS " + made, x.node(x.leads(0, 2 * made + 1, 0), 0), made == 0 ? 1 : 0);
+        }
+    }
+
     static void noneBelowOrBesideIsAsked() {
         about("6 NO METHOD: none of its CLASS, nor of one that it lies below");
         fails("of a CLASS below", new Told(0).methods(STATIC, of(1, 0)).steps(0, make(2, 0), ask(3, 2, 0, 2)).work(0, 0), NO_METHOD, 1);

@@ -472,6 +472,19 @@ public final class PromiseEdgesTest extends Dues {
         ran("given", x, 0, 5, 1, 2, 0, 2, NONE, 0, 2);
     }
 
+    static void promise13Deepest() {
+        about("Promise 13: ran: 5 the most METHODS within one another: not those at the end");
+        SiteObjects x = new Told().methods(STATIC, STATIC, STATIC).steps(0, maybe(1), call(2, 1, 2), call(2, 2, 2), clear(2))
+            .steps(1, call(2, 2, 2)).work(0, 0);
+        due("run(0, 300)", x.run(0, 300), 0);
+        due("three, then two, then one", x.ran(5), 3);
+        due("run(1, 300)", x.run(1, 300), 0);
+        due("two, then one", x.ran(5), 2);
+        SiteObjects y = single(above());
+        due("run(0, 1)", y.run(0, 1), 0);
+        due("the beginning alone", y.ran(5), 1);
+    }
+
     static void promise14() {
         about("Promise 14: object: Of OBJECT i of the latest run (as they were made)");
         SiteObjects x = new Told(0).methods(STATIC, STATIC).steps(0, call(2, 1, 2), make(3, 1), row(4, 1, 5), store(2, 0, 3), store(2, 3, 4),
@@ -623,6 +636,36 @@ public final class PromiseEdgesTest extends Dues {
                 }
             }
         }
+    }
+
+    static void promise17OfEachMethod() {
+        about("Promise 17: within: for each VAR of each METHOD: what another METHOD holds does not count");
+        // VAR 1 of the beginning alone holds more by DEPTH 0; METHODS 1, 2 and 3 hold all that in their VAR 1 anyway.
+        Told t = new Told().methods(STATIC, STATIC, STATIC, STATIC).steps(0, make(2, 0), make(3, 0), move(4, 2), move(4, 3), call(4, 1, 2),
+            call(1, 1, 3), call(5, 2, 4), call(5, 3, 4)).steps(1, give(1));
+        SiteObjects x = t.work(0, 1);
+        due("held(0, 1)", x.held(0, 1), 2);
+        due("within(0, 0)", x.within(0, 0), 0);
+        due("within(0, 2)", x.within(0, 2), 1);
+        t.work(0, 0);
+        due("held(0, 1) by DEPTH 0", x.held(0, 1), 3);
+        due("within(0, 1) of DEPTH 0", x.within(0, 1), 1);
+        // Here VAR 2 holds more than VAR 1 of the same METHOD by both.
+        SiteObjects y = single(above(), make(2, 0), make(2, 0), make(1, 0));
+        due("within(0, 0) of VARS apart", y.within(0, 0), 1);
+    }
+
+    static void promise17OfTheLastNames() {
+        about("Promise 17: within: the STEPS of all its NAMES: of the last ones as well");
+        Told t = new Told().methods(STATIC, STATIC).steps(0, times(53, make(5, 0))).steps(0, make(2, 0), make(3, 0), move(4, 2), move(4, 3),
+            call(4, 1, 3), call(0, 1, 2)).steps(1, give(1));
+        SiteObjects x = t.work(0, 1);
+        due("held(0, 0)", x.held(0, 0), 1L << 53);
+        due("NAME 54 is more: within(0, 0)", x.within(0, 0), 0);
+        due("within(0, 1)", x.within(0, 1), 1);
+        t.work(0, 0);
+        due("held(0, 0)", x.held(0, 0), 3L << 53);
+        due("within(0, 1) of DEPTH 0", x.within(0, 1), 1);
     }
 
     static void promise17BySteps() {
